@@ -233,6 +233,7 @@ public final class PromiseTest {
         same("13: a year", x.years(1), 2);
         same("10: those too old, or dead, are not bumped", x.walk(0, 7, 9), 1);
         same("15: anew", x.memory(0, 0, 0), 60);
+        same("15: anew", x.memory(0, 0, 2), 1);
         same("15: as it was", x.memory(1, 0, 0), 50);
         same("10: nobody", x.walk(0, 0, 1), 0);
         same("35: acts", x.count(5), 7);
@@ -249,6 +250,7 @@ public final class PromiseTest {
         same("9: the bribe that was", x.witness(1, 3), 0);
         same("9: the move", x.undo(), 1);
         same("9: the yard that was", x.stone(0), 50);
+        same("9: the year that was", x.memory(0, 0, 2), 0);
         same("9: the walk", x.undo(), 0);
         same("9: never bumped", x.memory(0, 0, 0), NONE);
         same("9: none", x.undo(), STATE);
@@ -641,9 +643,15 @@ public final class PromiseTest {
         same("28: the greatest", x.drawn(0, 999999, 0), 0);
         same("28: what", x.drawn(0, 1, 2), BAD);
         same("28: state ahead of bad", new BeatBounds().drawn(-1, 0, 2), STATE);
-        // by SEED 5 the first draw is 84035, which 5 and 7 divide: a walk, then the stone is moved
+        x = told("w1,1;s50;h20,70;");
+        same("28: pain 8 lasts 8 years", x.drawn(8, 1, 0), 1);
+        same("28: pain 8 lasts 8 years", x.drawn(9, 1, 0), 0);
+        // by SEED 5 the first draws are 84035, 1412376245, which 5 and 7 divide: a walk, then the stone is moved
+        x = told("w2,3;s50;h20,70;");
+        same("28: moved by 1", x.drawn(2, 5, 1), 51);
         x = told("w2,3;s99;h20,70;");
         same("28: walked ahead of moved", x.drawn(1, 5, 1), 99);
+        same("28: 99 at most", x.drawn(2, 5, 1), 99);
         x = told("w2,3;s98;h20,70;");
         same("28: walked ahead of moved", x.drawn(1, 5, 1), 98);
     }
@@ -681,6 +689,7 @@ public final class PromiseTest {
         x.move(0, 2);
         x.walk(0, 31, 1);
         same("30: again", x.restore(1), 1);
+        same("30: no act can be undone", x.undo(), STATE);
         same("30: it was kept", x.stone(0), 50);
         same("30: it was kept", x.memory(0, 0, 1), 9);
         same("30: the other", x.restore(0), 1);
