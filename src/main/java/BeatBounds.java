@@ -263,8 +263,7 @@ public final class BeatBounds {
             return STATE;
         }
         int alike = oaths.alike(yard);
-        int common = commonDivisor(oaths.many, alike);
-        return (what == 0 ? alike : oaths.many) / common;
+        return inLowestTerms(what == 0 ? alike : oaths.many, alike, oaths.many);
     }
 
     public int likeliest(int stone) {
@@ -542,14 +541,14 @@ public final class BeatBounds {
         return what == 0 || what == 1;
     }
 
-    /** Of a above 0 and b at most a. Six is the most that swear, so trying each divisor is short. */
-    private static int commonDivisor(int a, int b) {
-        for (int d = a; d > 1; d--) {
-            if (a % d == 0 && b % d == 0) {
-                return d;
+    /** One part of the fraction above by below. Six is the most that swear, so trying each divisor is short. */
+    private static int inLowestTerms(int part, int above, int below) {
+        for (int d = below; d > 1; d--) {
+            if (above % d == 0 && below % d == 0) {
+                return part / d;
             }
         }
-        return 1;
+        return part;
     }
 
     /** Whether one of a kind is one of another kind, too. */

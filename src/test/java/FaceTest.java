@@ -6,7 +6,9 @@ import java.nio.file.Path;
 import java.util.ArrayList;
 import java.util.Arrays;
 import java.util.List;
+import java.util.Set;
 import java.util.TreeSet;
+import java.util.regex.Matcher;
 import java.util.regex.Pattern;
 
 /** The public face of the class, and those rules of LANGUAGE.md that can be looked up without reading the program. */
@@ -19,6 +21,10 @@ public final class FaceTest {
     private static final String[] FORBIDDEN = {
         "throw", "throws", "try", "catch", "synchronized", "assert", "import", "package", "new Object", "protected",
         "hashCode", "toString", "Exact"};
+
+    private static final Set<String> LIBRARY = Set.of("Math.max", "Math.min", "Math.abs", "Integer.bitCount",
+        "System.arraycopy");
+    private static final Set<String> OWN = Set.of("Acts");
 
     private static final Due due = new Due("FaceTest");
 
@@ -100,5 +106,32 @@ public final class FaceTest {
         }
         due.holds("no lambda, no method reference", !code.contains("->") && !code.contains("::"));
         due.holds("signs are 1 to 127", text.chars().allMatch(c -> c >= 1 && c <= 127));
+        library(code);
+        lengths(text);
+    }
+
+    private static void library(String code) {
+        Matcher used = Pattern.compile("\\b([A-Z]\\w*[a-z]\\w*)\\.(\\w+)").matcher(code);
+        while (used.find()) {
+            boolean own = OWN.contains(used.group(1));
+            due.holds("LANGUAGE.md lists " + used.group(), own || LIBRARY.contains(used.group()));
+        }
+        due.holds("no String, no list, no double", !Pattern.compile(
+            "\\b(String|StringBuilder|List|ArrayList|Integer\\s+\\w|double|float)\\b").matcher(code).find());
+        due.holds("no object is made but in constructors and fields", Arrays.stream(code.split("\n")).allMatch(
+            line -> !line.contains("new ") || line.contains("final ") || line.matches(" +(rows|images)\\[i\\] = .*")));
+    }
+
+    /** A method ends with the first brace that stands as far in as its head does. */
+    private static void lengths(String text) {
+        Matcher method = Pattern.compile("(?m)^( {4}| {8})(?!if|for|while|switch)\\w[^=;\n]*\\([^\n]*\\) \\{\n(?s:.*?)\n\\1\\}")
+            .matcher(text);
+        int methods = 0;
+        while (method.find()) {
+            long lines = method.group().lines().count();
+            due.holds("at most sixty lines: " + method.group().lines().findFirst().orElse(""), lines <= 60);
+            methods++;
+        }
+        due.holds("the methods were found: " + methods, methods > FACE.length);
     }
 }
