@@ -114,7 +114,7 @@ public final class FaceTest {
         Matcher used = Pattern.compile("\\b([A-Z]\\w*[a-z]\\w*)\\.(\\w+)").matcher(code);
         while (used.find()) {
             boolean own = OWN.contains(used.group(1));
-            due.holds("LANGUAGE.md lists " + used.group(), own || LIBRARY.contains(used.group()));
+            due.holds("looked up in LANGUAGE.md: " + used.group(), own || LIBRARY.contains(used.group()));
         }
         due.holds("no String, no list, no double", !Pattern.compile(
             "\\b(String|StringBuilder|List|ArrayList|Integer\\s+\\w|double|float)\\b").matcher(code).find());
